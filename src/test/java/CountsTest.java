@@ -8,6 +8,8 @@ public final class CountsTest {
         count();
         save();
         saveAndRestoreEverything();
+        restoreOverAnotherFabric();
+        restoreOverOthersOfTheSameKind();
         restoreLeavesTheText();
         restoredTurns();
         digestOfNewObject();
@@ -109,6 +111,62 @@ public final class CountsTest {
         x.close(1);
         x.tick(1);
         return x.digest();
+    }
+
+    /** What was saved comes back in full where routers and tunnels of other kinds have taken all the numbers. */
+    private static void restoreOverAnotherFabric() {
+        TunnelFabric x = busy();
+        x.tick(9);
+        x.offer(1, 0, 9);
+        x.tick(1);
+        long saved = x.digest();
+        x.save(0);
+        Fabrics.write(x, "d1(d2(d3(s1)))h1(n2 n2)");
+        x.build();
+        check.due(0, x.open(1, 3, 1), "storage");
+        check.due(1, x.open(2, 6, 1), "packets");
+        check.due(2, x.open(0, 4, 1), "video");
+        check.due(3, x.open(2, 7, 1), "packets");
+        x.offer(0, 1, 40);
+        x.offer(1, 0, 40);
+        x.offer(2, 0, 40);
+        x.tick(2);
+        x.save(1);
+        long other = x.digest();
+        x.restore(0);
+        check.due(saved, x.digest(), "digest of the first");
+        x.tick(6);
+        long later = x.digest();
+        x.restore(1);
+        check.due(other, x.digest(), "digest of the second");
+        x.tick(6);
+        x.restore(0);
+        x.tick(6);
+        check.due(later, x.digest(), "digest of the first, later");
+    }
+
+    /** A waking link, and the order in which tunnels were opened, are saved as well. */
+    private static void restoreOverOthersOfTheSameKind() {
+        TunnelFabric x = Fabrics.built("h3(s3 s3)");
+        x.tick(4);
+        x.open(0, 2, 6);
+        x.open(0, 3, 6);
+        x.close(0);
+        x.open(0, 2, 9);
+        x.tick(1);
+        x.save(0);
+        long saved = x.digest();
+        x.tick(3);
+        x.close(0);
+        x.close(1);
+        x.open(0, 3, 1);
+        x.open(0, 2, 1);
+        check.due(2, x.restore(0), "restore");
+        check.due(saved, x.digest(), "digest");
+        check.due(1, x.link(1, 6), "ticks to wake");
+        check.due(1, x.tunnel(1, 5), "opened before tunnel 1");
+        check.due(2, x.tunnel(0, 5), "opened before tunnel 0");
+        check.due(3, x.count(8), "opened");
     }
 
     private static void restoreLeavesTheText() {

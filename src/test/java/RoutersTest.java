@@ -9,6 +9,7 @@ public final class RoutersTest {
         type();
         clearText();
         fault();
+        faultOfNextText();
         build();
         buildClosesTunnels();
         plug();
@@ -129,6 +130,28 @@ public final class RoutersTest {
         faultIs(NONE, "d3(d3(d3(d3())))");
         faultIs(2, "h3\t");
         faultIs(60, "h3(" + " ".repeat(57));
+        faultIs(6, "h3(s3)(");
+        faultIs(3, "h3s(");
+        faultIs(4, "h3(s(");
+    }
+
+    private static void faultOfNextText() {
+        TunnelFabric x = new TunnelFabric();
+        Fabrics.write(x, "h3");
+        check.due(NONE, x.fault(), "fault of the first text");
+        x.clearText();
+        Fabrics.write(x, "(");
+        check.due(0, x.fault(), "fault of the second text");
+        x.clearText();
+        Fabrics.write(x, "h3(d");
+        check.due(4, x.fault(), "fault of the third text");
+        x.clearText();
+        Fabrics.write(x, "h3(h3(s3 s3 s3) n3)");
+        check.due(NONE, x.fault(), "fault of the fourth text");
+        check.due(NONE, x.fault(), "fault of it again");
+        check.due(7, x.build(), "build");
+        Fabrics.write(x, "h3(h3(s3 s3 s3) n3)");
+        check.due(7, x.build(), "build it again");
     }
 
     private static void routerIs(TunnelFabric x, int router, int kind, int generation, int parent, int port) {
@@ -245,6 +268,19 @@ public final class RoutersTest {
         }
         check.due(0, x.load(1, 0), "load");
         check.due(16, x.freeCredits(1, 0), "credits");
+        x.tick(2);
+        x.unplug(1);
+        x.plug(0, 0, 2, 2);
+        check.due(0, x.link(1, 5), "idle time");
+        x.open(1, 1, 1);
+        x.tick(4);
+        x.offer(0, 0, 1);
+        x.tick(1);
+        check.due(2, x.link(1, 6), "ticks to wake");
+        x.unplug(1);
+        x.plug(0, 0, 2, 2);
+        check.due(0, x.link(1, 4), "state");
+        check.due(0, x.link(1, 6), "ticks to wake");
     }
 
     private static void unplug() {

@@ -10,8 +10,12 @@ public final class TunnelsTest {
         openBays();
         openCredits();
         openNeedsFourCredits();
+        openWithOneCredit();
+        openAtDepthFour();
+        openInPlaceOfAnother();
         openBandwidth();
         openHopNumbers();
+        openWithoutHopNumber();
         openWakesLinks();
         close();
         closeDistributesInOrder();
@@ -100,6 +104,53 @@ public final class TunnelsTest {
         check.due(3, y.hop(0, 1, 0, 2), "packets up");
     }
 
+    private static void openWithOneCredit() {
+        TunnelFabric x = Fabrics.built("d3(d3(n3))");
+        x.open(2, 3, 1);
+        x.open(2, 3, 1);
+        x.open(2, 3, 1);
+        x.open(1, 2, 1);
+        check.due(1, x.freeCredits(2, 0), "credits left down");
+        check.due(1, x.freeCredits(2, 1), "credits left up");
+        check.due(4, x.open(2, 3, 1), "packets");
+        check.due(1, x.hop(4, 0, 1, 2), "credits down");
+        check.due(1, x.hop(4, 1, 1, 2), "credits up");
+        check.due(3, x.hop(4, 1, 0, 2), "credits of the first hop up");
+        refused(NO_CREDIT, x, 1, 1, 1);
+        refused(NO_CREDIT, x, 1, 2, 1);
+    }
+
+    private static void openAtDepthFour() {
+        TunnelFabric x = Fabrics.built("d3(d3(d3(s3)))");
+        check.due(0, x.open(0, 4, 9), "video");
+        check.due(4, x.tunnel(0, 4), "links of its path");
+        for (int i = 0; i < 4; i++) {
+            check.due(i + 1, x.hop(0, 0, i, 0), "link of hop " + i);
+        }
+        x.offer(0, 0, 5);
+        check.due(4, x.tick(4), "delivered over four hops");
+        TunnelFabric y = Fabrics.built("h3(h3(h3(n3)))");
+        check.due(0, y.open(2, 4, 1), "packets");
+        for (int i = 0; i < 4; i++) {
+            check.due(i + 1, y.hop(0, 0, i, 0), "link of hop " + i);
+            check.due(4 - i, y.hop(0, 1, i, 0), "link of hop " + i + " upward");
+        }
+        y.offer(0, 1, 2);
+        check.due(0, y.tick(3), "delivered in three ticks");
+        check.due(2, y.tick(1), "delivered in the fourth");
+    }
+
+    private static void openInPlaceOfAnother() {
+        TunnelFabric x = Fabrics.built("s3 d3");
+        x.open(1, 2, 1);
+        x.offer(0, 1, 9);
+        x.close(0);
+        check.due(0, x.open(0, 1, 1), "video with the number of storage");
+        check.due(WRONG_KIND, x.offer(0, 1, 1), "offer upward");
+        check.due(NONE, x.hop(0, 1, 0, 0), "hop upward");
+        check.due(NONE, x.cellCount(0, 1, 0), "cells upward");
+    }
+
     private static void openNeedsFourCredits() {
         TunnelFabric x = Fabrics.built("h3(d3(s1) d3 n3)");
         x.open(1, 2, 1);
@@ -165,6 +216,36 @@ public final class TunnelsTest {
         x.open(1, 3, 1);
         check.due(12, x.hop(4, 0, 0, 1), "storage, first link");
         check.due(8, x.hop(4, 1, 1, 1), "storage, up to the host");
+    }
+
+    /** Eight tunnels come to use one link by taking what credits others leave: then no hop number is left. */
+    private static void openWithoutHopNumber() {
+        TunnelFabric x = Fabrics.built("h3(d3(n3) d3(s3) n3)");
+        check.due(0, x.open(0, 5, 1), "video");
+        check.due(1, x.open(0, 5, 1), "video");
+        check.due(2, x.open(1, 2, 1), "storage");
+        check.due(3, x.open(1, 4, 1), "storage");
+        check.due(4, x.open(2, 6, 1), "packets");
+        check.due(5, x.open(1, 4, 1), "storage with one credit");
+        check.due(1, x.hop(5, 0, 0, 2), "its credits");
+        x.close(2);
+        check.due(2, x.open(2, 6, 1), "packets");
+        check.due(6, x.open(2, 6, 1), "packets");
+        x.close(3);
+        check.due(3, x.open(2, 3, 1), "packets");
+        refused(FULL, x, 2, 3, 1);
+        check.due(7, x.open(1, 4, 1), "storage");
+        int seen = 0;
+        for (int t = 0; t < 8; t++) {
+            seen |= 1 << x.hop(t, 0, 0, 1);
+        }
+        check.due(0xff00, seen, "the hop numbers 8 to 15");
+        check.due(15, x.hop(7, 0, 0, 1), "the last hop number");
+        refused(FULL, x, 1, 2, 1);
+        x.close(0);
+        refused(NO_CREDIT, x, 1, 2, 1);
+        check.due(0, x.open(0, 5, 1), "video again");
+        check.due(8, x.hop(0, 0, 0, 1), "its hop number");
     }
 
     private static void openWakesLinks() {
