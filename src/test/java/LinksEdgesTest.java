@@ -17,6 +17,7 @@ public final class LinksEdgesTest {
         noSuchLink("promise 14", "load");
         directions("promise 14", "load");
         load();
+        loadFadesAway();
         check.end();
     }
 
@@ -40,13 +41,15 @@ public final class LinksEdgesTest {
 
     private static void directions(String promise, String call) {
         run(promise + ": the direction, 0 or 1", """
-            plug(0,0,0,3) = 1; CALL(1,-1) ! BAD; CALL(1,2) ! BAD; CALL(1,MIN) ! BAD; CALL(1,MAX) ! BAD; CALL(0,2) ! BAD
+            plug(0,0,0,3) = 1; CALL(1,-1) ! BAD; CALL(1,2) ! BAD; CALL(1,MIN) ! BAD; CALL(1,MAX) ! BAD
+            CALL(0,2) ! BAD
             """.replace("CALL", call));
     }
 
     private static void linkWhat() {
         run("promise 11: what, from 0 to 6", """
-            plug(0,0,0,2) = 1; link(1,-1) ! BAD; link(1,0) = 2; link(1,1) = 0; link(1,2) = 0; link(1,3) = 3; link(1,4) = 0
+            plug(0,0,0,2) = 1; link(1,-1) ! BAD; link(1,0) = 2; link(1,1) = 0; link(1,2) = 0; link(1,3) = 3
+            link(1,4) = 0
             link(1,5) = 0; link(1,6) = 0; link(1,7) ! BAD; link(1,MIN) ! BAD; link(1,MAX) ! BAD; link(0,7) ! BAD
             """);
         run("promise 11: the links of the routers 1 and 7", """
@@ -67,8 +70,10 @@ public final class LinksEdgesTest {
             """);
         run("promise 11: the reserve is never greater than the limit", """
             text 'h3(s1 s2)s3'
-            build() = 5; open(0,2,12) = 0; link(2,2) = 1; link(1,2) = 1; open(0,3,12) = 1; link(3,2) = 3; link(1,2) = 4
-            close(0) = 0; link(2,2) = 0; link(1,2) = 3; open(0,4,12) = 0; link(4,2) = 7; widen(4,true) = 0; link(4,2) = 11
+            build() = 5; open(0,2,12) = 0; link(2,2) = 1; link(1,2) = 1; open(0,3,12) = 1; link(3,2) = 3
+            link(1,2) = 4
+            close(0) = 0; link(2,2) = 0; link(1,2) = 3; open(0,4,12) = 0; link(4,2) = 7; widen(4,true) = 0
+            link(4,2) = 11
             """);
         run("promise 11: the reserve is of video tunnels alone", """
             text 'd3(n3)'
@@ -118,7 +123,8 @@ public final class LinksEdgesTest {
             """);
         run("promise 12: if it is wide, 3 lanes down and 1 lane up", """
             text 's3'
-            build() = 2; widen(1,true) = 0; capacity(1,0) = 12; capacity(1,1) = 4; widen(1,false) = 1; capacity(1,0) = 8
+            build() = 2; widen(1,true) = 0; capacity(1,0) = 12; capacity(1,1) = 4; widen(1,false) = 1
+            capacity(1,0) = 8
             capacity(1,1) = 8
             """);
         run("promise 12: the links of the routers 1 and 7", """
@@ -174,8 +180,25 @@ public final class LinksEdgesTest {
             """);
         run("promise 14: it fades also while the link sleeps", """
             text 'd3'
-            build() = 2; open(1,1,1) = 0; offer(0,0,4) = 4; tick(1) = 4; load(1,0) = 0.0625f; tick(1); load(1,0) = 0.0546875f
+            build() = 2; open(1,1,1) = 0; offer(0,0,4) = 4; tick(1) = 4; load(1,0) = 0.0625f; tick(1)
+            load(1,0) = 0.0546875f
             tick(3); link(1,4) = 2; load(1,0) = 0.036636353f; tick(1); load(1,0) = 0.032056808f
             """);
+    }
+
+    /** A load becomes so small that its float has no leading 1 any more, and then stays, as it is rounded. */
+    private static void loadFadesAway() {
+        check.part("promise 14: as Float.floatToIntBits returns it, down to the least floats");
+        TunnelFabric x = Fabrics.built("d3");
+        x.open(1, 1, 1);
+        x.offer(0, 0, 6);
+        x.tick(1);
+        float load = 6 / 8f * 0.125f;
+        for (int i = 0; i < 180; i++) {
+            check.due(Float.floatToIntBits(load), x.load(1, 0), "load(1, 0), after " + i + " times 5 ticks");
+            x.tick(5);
+            load = load * 0.875f * 0.875f * 0.875f * 0.875f * 0.875f;
+        }
+        check.due(4, x.load(1, 0), "load(1, 0) in the end");
     }
 }

@@ -79,7 +79,8 @@ public final class RoutersEdgesTest {
 
     private static void plugOccupied() {
         run("promise 6: OCCUPIED if there is a router in this port", """
-            plug(0,1,0,3) = 1; plug(0,1,1,2) ! OCCUPIED; plug(0,0,1,2) = 2; plug(0,0,1,2) ! OCCUPIED; router(1,0) = HUB
+            plug(0,1,0,3) = 1; plug(0,1,1,2) ! OCCUPIED; plug(0,0,1,2) = 2; plug(0,0,1,2) ! OCCUPIED
+            router(1,0) = HUB
             plug(1,2,3,1) = 3; plug(1,2,3,1) ! OCCUPIED; plug(1,1,3,1) = 4
             """);
         run("promise 6: a port is free again when its router is gone", """
@@ -98,7 +99,8 @@ public final class RoutersEdgesTest {
     private static void plugFull() {
         run("promise 6: FULL if all 8 routers are present, and not if 7 are", """
             text 'h3(h3(n3 n3 n3)h3)'
-            build() = 7; plug(6,0,0,3) = 7; count(0) = 8; plug(6,1,0,3) ! FULL; plug(7,0,0,3) ! FULL; plug(0,1,0,3) ! FULL
+            build() = 7; plug(6,0,0,3) = 7; count(0) = 8; plug(6,1,0,3) ! FULL; plug(7,0,0,3) ! FULL
+            plug(0,1,0,3) ! FULL
             unplug(4) = 1; plug(6,1,0,3) = 4; plug(6,2,0,3) ! FULL
             """);
     }
@@ -106,7 +108,8 @@ public final class RoutersEdgesTest {
     private static void plugErrorsInOrder() {
         run("promise 6: BAD comes before OCCUPIED", """
             plug(0,0,0,3) = 1
-            plug(0,0,4,3) ! BAD; plug(0,0,-1,3) ! BAD; plug(0,0,0,0) ! BAD; plug(0,0,0,4) ! BAD; plug(0,0,0,3) ! OCCUPIED
+            plug(0,0,4,3) ! BAD; plug(0,0,-1,3) ! BAD; plug(0,0,0,0) ! BAD; plug(0,0,0,4) ! BAD
+            plug(0,0,0,3) ! OCCUPIED
             """);
         run("promise 6: BAD comes before TOO_DEEP", """
             text 'd3(d3(d3(d3)))'
@@ -181,15 +184,18 @@ public final class RoutersEdgesTest {
             """);
         run("promise 7: without tunnels on its links none is closed and no cell is lost", """
             text 'd3 h3'
-            build() = 3; open(1,1,1) = 0; offer(0,0,9) = 9; unplug(2) = 1; count(1) = 1; count(4) = 0; cellCount(0,0,0) = 9
+            build() = 3; open(1,1,1) = 0; offer(0,0,9) = 9; unplug(2) = 1; count(1) = 1; count(4) = 0
+            cellCount(0,0,0) = 9
             """);
         run("promise 7: after the routers are gone, it is distributed", """
             text 'h3(s3 s3)'
-            build() = 4; open(0,2,4) = 0; open(0,3,9) = 1; tunnel(1,3) = 3; unplug(2) = 1; tunnel(1,3) = 7; link(1,2) = 7
+            build() = 4; open(0,2,4) = 0; open(0,3,9) = 1; tunnel(1,3) = 3; unplug(2) = 1; tunnel(1,3) = 7
+            link(1,2) = 7
             """);
         run("promise 7: all tunnels to the router are closed, so that none gets what another one had", """
             text 'h3(s3)s3'
-            build() = 4; open(0,2,7) = 0; open(0,3,9) = 1; tunnel(1,3) = 7; unplug(1) = 2; tunnel(1,3) = 7; count(1) = 1
+            build() = 4; open(0,2,7) = 0; open(0,3,9) = 1; tunnel(1,3) = 7; unplug(1) = 2; tunnel(1,3) = 7
+            count(1) = 1
             """);
     }
 
@@ -209,7 +215,8 @@ public final class RoutersEdgesTest {
             widen(1,true) = 0; widen(4,true) = 0
             """);
         run("promise 8: returns 1 if it was wide before, otherwise 0", """
-            plug(0,0,0,3) = 1; widen(1,false) = 0; widen(1,true) = 0; widen(1,true) = 1; link(1,1) = 1; widen(1,false) = 1
+            plug(0,0,0,3) = 1; widen(1,false) = 0; widen(1,true) = 0; widen(1,true) = 1; link(1,1) = 1
+            widen(1,false) = 1
             widen(1,false) = 0; link(1,1) = 0
             """);
     }
@@ -264,14 +271,17 @@ public final class RoutersEdgesTest {
         run("promise 9: the router, from 0 to 7", """
             text 'h3(h3(n3 n3 n3)h3(n1))'
             build() = 8; router(-1,0) ! BAD; router(0,0) = HOST; router(7,1) = 1; router(8,0) ! BAD
-            router(MIN,0) ! BAD; router(MAX,5) ! BAD; router(0,5) = 7; router(1,5) = 6; router(2,5) = 3; router(7,5) = 0
+            router(MIN,0) ! BAD; router(MAX,5) ! BAD; router(0,5) = 7; router(1,5) = 6; router(2,5) = 3
+            router(7,5) = 0
             """);
         run("promise 9: BAD if there is no such router", """
-            router(1,0) ! BAD; router(7,5) ! BAD; plug(0,0,0,3) = 1; router(2,2) ! BAD; unplug(1) = 1; router(1,2) ! BAD
+            router(1,0) ! BAD; router(7,5) ! BAD; plug(0,0,0,3) = 1; router(2,2) ! BAD; unplug(1) = 1
+            router(1,2) ! BAD
             """);
         run("promise 9: the depth, from 0 to 4", """
             text 'd3(d3(d3(d3)))'
-            build() = 5; router(0,4) = 0; router(1,4) = 1; router(3,4) = 3; router(4,4) = 4; router(0,5) = 4; router(3,5) = 1
+            build() = 5; router(0,4) = 0; router(1,4) = 1; router(3,4) = 3; router(4,4) = 4; router(0,5) = 4
+            router(3,5) = 1
             """);
     }
 
@@ -291,7 +301,8 @@ public final class RoutersEdgesTest {
             """);
         run("promise 10: BAD if there is no such router, NONE if there is no router in its port", """
             plugged(1,0) ! BAD; plugged(7,0) ! BAD; plug(0,1,HUB,3) = 1; plugged(1,0) = NONE; plugged(0,0) = NONE
-            plugged(0,1) = 1; plug(1,0,HUB,3) = 2; plugged(1,0) = 2; unplug(2) = 1; plugged(1,0) = NONE; plugged(2,0) ! BAD
+            plugged(0,1) = 1; plug(1,0,HUB,3) = 2; plugged(1,0) = 2; unplug(2) = 1; plugged(1,0) = NONE
+            plugged(2,0) ! BAD
             """);
     }
 }

@@ -1,7 +1,9 @@
 import java.lang.reflect.InvocationTargetException;
 import java.lang.reflect.Method;
 import java.util.ArrayList;
+import java.util.HashMap;
 import java.util.List;
+import java.util.Map;
 import java.util.regex.Matcher;
 import java.util.regex.Pattern;
 
@@ -12,6 +14,7 @@ import java.util.regex.Pattern;
  *   plug(0,0,HUB,3) = 1       the answer that is due (a number, a constant of the face, or a float such as 0.5f)
  *   tick(4)                   a call whose answer is not looked at
  *   unplug(0) ! BAD           a refused call: the answer, and that no later call shows a change
+ *   digest() > before         keeps the answer by a name, to be due later: digest() = before
  *   60 * type(32)             a call made so many times
  *   text 'h3(s3)'             types each byte of the text
  * </pre>
@@ -19,13 +22,14 @@ import java.util.regex.Pattern;
 final class Script {
     private static final int MOST_CALLS = 512;
     private static final Pattern CALL = Pattern.compile(
-        "(?:(\\d+) \\* )?(\\w+)\\(([^)]*)\\)(?: ([=!]) (\\S+))?");
+        "(?:(\\d+) \\* )?(\\w+)\\(([^)]*)\\)(?: ([=!>]) (\\S+))?");
     private static final Pattern TEXT = Pattern.compile("text '(.*)'");
     private static final int[][] NO_ARGUMENTS = {{}};
 
     private final Check check;
     private final TunnelFabric x = new TunnelFabric();
     private final List<Call> made = new ArrayList<>();
+    private final Map<String, Long> kept = new HashMap<>();
 
     private Script(Check check) {
         this.check = check;
@@ -101,7 +105,9 @@ final class Script {
         }
         long got = make(call);
         if ("=".equals(sign)) {
-            check.due(number(answer), got, call.toString());
+            check.due(kept.containsKey(answer) ? kept.get(answer) : number(answer), got, call.toString());
+        } else if (">".equals(sign)) {
+            kept.put(answer, got);
         }
     }
 

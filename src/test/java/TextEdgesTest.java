@@ -135,6 +135,7 @@ public final class TextEdgesTest {
         faultIs("the first byte cannot stand: )", 0, ")");
         faultIs("a letter in place of the generation", 1, "hs3");
         faultIs("( in place of the generation", 1, "h(s3)");
+        faultIs("( in place of the generation of a second router", 3, "h3s(d3)");
         faultIs(") in place of the generation", 4, "h3(s)");
         faultIs("a digit after the generation", 2, "h32");
         faultIs("a digit after (", 3, "h3(3)");
@@ -187,6 +188,18 @@ public final class TextEdgesTest {
         faultIs("too early: with 59 bytes", 59, "h" + " ".repeat(58));
         faultIs("too early: with 60 bytes", 60, "h" + " ".repeat(59));
         faultIs("a fault in a text that also ends too early is where the byte stands", 3, "h3(x");
+        run("promise 4: the fault of a text does not hang on the one before", """
+            text 'h3'
+            fault() = NONE; clearText() = 2; type(40) = 1; fault() = 0; clearText() = 1
+            text 'h3('
+            fault() = 3; clearText() = 3; type(41) = 1; fault() = 0; clearText() = 1
+            text 'h'
+            fault() = 1; clearText() = 1; type(51) = 1; fault() = 0; clearText() = 1
+            text 's3s3'
+            fault() = NONE; clearText() = 4
+            text 's3s3'
+            fault() = NONE
+            """);
         run("promise 4: the fault moves on as bytes are typed", """
             fault() = NONE; type(104); fault() = 1; type(51); fault() = NONE; type(40); fault() = 3
             type(115); fault() = 4; type(50); fault() = 5; type(41); fault() = NONE
@@ -264,7 +277,8 @@ public final class TextEdgesTest {
             open(0,5,1) = 0; open(0,5,1) = 1; open(1,2,1) = 2; open(1,2,1) = 3; open(1,3,1) = 4; open(1,3,1) = 5
             open(2,6,1) = 6; open(2,6,1) = 7; open(2,7,1) = 8; open(2,7,1) = 9
             offer(0,0,99) = 99; offer(9,1,99) = 99; tick(1) = 0
-            build() = 1; count(1) = 0; count(4) = 198; count(8) = 10; count(2) = 1; tunnel(0,0) ! BAD; tunnel(9,0) ! BAD
+            build() = 1; count(1) = 0; count(4) = 198; count(8) = 10; count(2) = 1; tunnel(0,0) ! BAD
+            tunnel(9,0) ! BAD
             """);
         run("promise 5: build leaves patience, counts and slots", """
             text 'd3'
