@@ -96,6 +96,12 @@ public final class AnalysisEdgesTest {
             build() = 3; open(1,2,1) = 0; open(0,1,12) = 1; link(1,2) = 7; fairShare(0,0) = 1f; fairShare(0,1) = 8f
             close(1) = 0; fairShare(0,0) = 8f
             """);
+        run("promise 24: what is left decreases tunnel by tunnel, in floats, here to less than 1", """
+            text 'h2(n1 n1 s1)'
+            build() = 5; open(0,4,1) = 0; open(2,3,1) = 1; open(2,3,1) = 2; open(2,3,1) = 3; open(2,2,1) = 4
+            fairShare(1,0) = 0.6666667f; fairShare(2,0) = 0.6666667f; fairShare(3,0) = 0.6666667f
+            fairShare(4,0) = 0.9999998f; fairShare(4,1) = 1.9999998f
+            """);
         run("promise 24: what one tunnel cannot use is left for others", """
             text 'h3(d1 n3)'
             build() = 4; open(1,2,1) = 0; open(2,3,1) = 1; fairShare(0,0) = 2f; fairShare(1,0) = 6f

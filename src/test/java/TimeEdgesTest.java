@@ -6,6 +6,7 @@ public final class TimeEdgesTest {
         tickArguments();
         manyTicksAreSingleTicks();
         waking();
+        wakingWithoutCells();
         whatATunnelCanSend();
         video();
         turnSizes();
@@ -90,6 +91,15 @@ public final class TimeEdgesTest {
             text 'd3'
             build() = 2; open(1,1,1) = 0; tick(4); offer(0,0,1) = 1; tick(1) = 0; close(0) = 1; link(1,6) = 2
             tick(1); link(1,6) = 1; tick(1); link(1,4) = 0; link(1,5) = 1
+            """);
+    }
+
+    private static void wakingWithoutCells() {
+        run("promise 22: a link that wakes and sends nothing is idle at once, and drowsy if the patience is 1", """
+            text 'd3'
+            build() = 2; setPatience(1) = 3; open(1,1,1) = 0; tick(2); link(1,4) = 2; offer(0,0,1) = 1; tick(1) = 0
+            close(0) = 1; tick(1); link(1,4) = 3; tick(1); link(1,4) = 1; link(1,5) = 1; link(1,6) = 0
+            tick(1); link(1,4) = 2
             """);
     }
 
