@@ -5,6 +5,9 @@ public final class AgreementTest {
     private static final Check check = new Check();
     private static final int RUNS = 400;
     private static final int CALLS = 512;
+    // Numbers that a cast to a byte or a short, or a sum that wraps round, would take for small ones.
+    private static final int[] FAR = {
+        Integer.MIN_VALUE, Integer.MIN_VALUE + 200, Integer.MAX_VALUE - 99, -65536, 65536, -256, 256, 1 << 24};
     private static final String[] TEXTS = {
         "h3(s3d3n3)h2(n1 s2(d3))", "h3(h3(h3(s3 d2 n3)))", "s3(d3(n3))d3(s3)", " h 3 ( s 2 ) ", "h3(s3s2d3)d3(n2)",
         "h3(h3(s3d3n3)s3n2)", "d1(d2(d3(d3)))n3", "h3(h3(h3(s3(s3))))", "h3(h3(s3d3n3)h3(s3d3n3))", "n3(s",
@@ -30,10 +33,14 @@ public final class AgreementTest {
         check.end();
     }
 
-    /** A number from 0 to most, now and then one or a few beyond an end. */
+    /** A number from 0 to most, now and then one that is beyond an end: by a few, or by far. */
     private int upTo(int most) {
-        int dice = random.nextInt(60);
-        return dice == 0 ? -1 - random.nextInt(3) : dice == 1 ? most + 1 + random.nextInt(3) : random.nextInt(most + 1);
+        switch (random.nextInt(90)) {
+            case 0: return -1 - random.nextInt(3);
+            case 1: return most + 1 + random.nextInt(3);
+            case 2: return FAR[random.nextInt(FAR.length)] + random.nextInt(most + 1);
+            default: return random.nextInt(most + 1);
+        }
     }
 
     private int from1To(int most) {
